@@ -111,40 +111,67 @@ public final class ModelTest {
 
     // ---- texts ----
 
+    // What there will be behind the lines told so far; only a draw in a hundred tells too much.
     private int places = 0;
+    private int things = 0;
+    private int brothers = 0;
+    private int keepers = 0;
 
     private String line() {
-        int p = Math.max(places, 1);
-        int kind = places < 2 ? 0 : below(14);
-        if (kind < 2) {
+        int kind = places < 3 ? 0 : below(15);
+        boolean wild = chance(1);
+        if (kind < 2 && (places < 7 || wild)) {
             places++;
             return "place";
         }
-        if (kind < 5) {
-            return "thing " + below(16) + " worth " + (1 + below(99)) + " at " + below(p);
+        if (kind < 5 && (things < 9 || wild)) {
+            things++;
+            return "thing " + below(16) + " worth " + (1 + below(99)) + " at " + (chance(60) ? 0 : below(places));
         }
-        if (kind < 9) {
-            return "road " + below(p) + " " + below(p) + " long " + (1 + below(9))
-                + (chance(40) ? " chance " + (1 + below(100)) : "");
+        if (kind >= 9 && kind < 12) {
+            int p = below(places);
+            if ((keepers >> p & 1) == 0 || wild) {
+                keepers |= 1 << p;
+                return "keeper " + p + " lock " + lock() + keeperEnd();
+            }
         }
-        if (kind < 12) {
-            int from = below(24);
-            return "keeper " + below(p) + " lock " + lock()
-                + (chance(40) ? " eats " + from + " to " + Math.min(23, from + below(6)) : "")
-                + (chance(50) ? " takes" : "") + (chance(40) ? " has " + below(16) + " worth " + (1 + below(99)) : "");
+        if (kind >= 12 && (brothers < 7 || wild)) {
+            brothers++;
+            return "brother " + below(places) + " lock " + lock() + " way " + below(100) + " due "
+                + below(chance(50) ? 100 : 1000);
         }
-        return "brother " + below(p) + " lock " + lock() + " way " + below(100) + " due " + below(chance(50) ? 100 : 1000);
+        int one = below(places);
+        int other = wild ? below(places) : (one + 1 + below(places - 1)) % places;
+        return "road " + one + " " + other + " long " + (1 + below(chance(70) ? 4 : 9))
+            + (chance(40) ? " chance " + (1 + below(100)) : "");
+    }
+
+    private String keeperEnd() {
+        int from = below(24);
+        String end = (chance(40) ? " eats " + from + " to " + Math.min(23, from + below(6)) : "")
+            + (chance(50) ? " takes" : "");
+        if (chance(40) && things < 9) {
+            things++;
+            end += " has " + below(16) + " worth " + (1 + below(99));
+        }
+        return end;
     }
 
     private String lock() {
-        int mask = chance(60) ? 1 << below(4) : below(16);
+        int mask = chance(20) ? 0 : chance(60) ? 1 << below(4) : below(16);
         int value = chance(90) ? mask & below(16) : below(16);
         return mask + " " + value;
     }
 
     private String tale() {
-        places = Integer.parseInt(outcome(model, "count", new Object[] {0}));
-        int lines = places == 0 ? 5 + below(10) : 1 + below(15);
+        places = has(0);
+        things = has(1);
+        brothers = has(3);
+        keepers = 0;
+        for (int p = 0; p < places; p++) {
+            keepers += Integer.parseInt(outcome(model, "place", new Object[] {p, 0})) << p;
+        }
+        int lines = places == 0 ? 8 + below(7) : 1 + below(chance(5) ? 15 : 10);
         StringBuilder text = new StringBuilder();
         for (int i = 0; i < lines && text.length() < 360; i++) {
             text.append(i == 0 ? "" : ";").append(line());
@@ -251,7 +278,7 @@ public final class ModelTest {
         for (int i = 0; i < 4 && has(5) < 2; i++) {
             tellTale(i == 0 ? 20 : 10);
         }
-        if (chance(60)) {
+        if (chance(40)) {
             tellLaw();
         }
         while (calls < CALLS && !failed) {
