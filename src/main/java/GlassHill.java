@@ -684,7 +684,8 @@ public final class GlassHill {
         }
 
         boolean tookMark(char mark) {
-            if (wrong != NONE || isAtEnd() || bytes[next] != mark) {
+            skipBlanks();
+            if (wrong != NONE || next >= size || bytes[next] != mark) {
                 return false;
             }
             begin = next;
@@ -710,7 +711,7 @@ public final class GlassHill {
                 length++;
             }
             if (wrong != NONE || length == 0 || length > MOST_DIGITS || number < low || number > high) {
-                fail();
+                failAt(next);
                 return low;
             }
             begin = next;
@@ -719,7 +720,8 @@ public final class GlassHill {
         }
 
         boolean nextIsDigit() {
-            return wrong == NONE && !isAtEnd() && isWithin(bytes[next], '0', '9');
+            skipBlanks();
+            return wrong == NONE && next < size && isWithin(bytes[next], '0', '9');
         }
 
         /** Uses the TAPE up: of how many pairs it is, each below these bounds; NONE, if it is not that. */
