@@ -35,6 +35,8 @@ public final class LawTest {
         Checks.wrongLaw(x, "bar if night < 3", 13);
         Checks.wrongLaw(x, "bar if 3 < night", 11);
         Checks.wrongLaw(x, "bar if hour", 11);
+        Checks.wrongLaw(x, "bar if hour hour", 12);
+        Checks.wrongLaw(x, "bar if 1 2", 9);
         Checks.wrongLaw(x, "bar if hour <", 13);
         Checks.wrongLaw(x, "bar if hour = 3", 12);
         Checks.wrongLaw(x, "bar if hour + < 3", 14);

@@ -136,6 +136,10 @@ public final class RiddlesTest {
         int[] most = new int[400];
         java.util.Arrays.fill(most, 1);
         lock(x, 16, 0x00, most);
+        most[398] = 0;
+        lock(x, 8, 0x00, most);
+        most[399] = 0;
+        lock(x, 8, 0x11, most);
     }
 
     private static void lock(GlassHill x, int many, int least, int... bytes) {

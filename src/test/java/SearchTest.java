@@ -2,6 +2,7 @@
 public final class SearchTest {
     public static void main(String[] args) {
         waitingAlone();
+        nowAlone();
         thirtyHours();
         keysAndLoss();
         laidForWantOfRoom();
@@ -26,6 +27,18 @@ public final class SearchTest {
         Checks.due("a thing taken or not", 62, x.locked(true));
         x.take(0);
         Checks.due("carried already", 31, x.locked(true));
+    }
+
+    /** He eats from the hour that comes on, so there is only the state now. */
+    private static void nowAlone() {
+        GlassHill x = Checks.told("place;keeper 0 lock 1 1 eats 1 to 23;thing 1 worth 1 at 0");
+        x.take(0);
+        x.pay(0);
+        Checks.due("states", 1, x.locked(true));
+        Checks.due("he let her pass", 0, x.locked(false));
+        Checks.due("soonest", 0, x.soonest(0));
+        Checks.due("spared", 0, x.spared(0));
+        Checks.due("reached", 0, x.reached(0));
     }
 
     private static void thirtyHours() {

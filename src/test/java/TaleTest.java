@@ -85,6 +85,7 @@ public final class TaleTest {
         Checks.wrongTale(x, "keeper 0 lock 1 1;keeper 0 lock", 25);
         Checks.wrongTale(x, "brother 2 lock 1 1 way 0 due 0", 8);
         Checks.wrongTale(x, "brother 0 lock 1 1 due 0", 19);
+        Checks.wrongTale(x, "brother 0 lock 1 1 way 100 due 0", 23);
         Checks.wrongTale(x, "brother 0 lock 1 1 way 0 due 1000", 29);
         Checks.wrongTale(x, "brother 0 lock 1 1 way 0 due", 28);
         Checks.due("no text more", 1, x.count(5));

@@ -19,6 +19,7 @@ public final class TapeTest {
         Checks.due("end(1) of 0", false, x.end(1));
         orderOfBytes();
         longestText();
+        cutOff();
         Checks.finish("TapeTest");
     }
 
@@ -32,6 +33,32 @@ public final class TapeTest {
         Checks.due("feed behind a tape used up", 20, x.feed(0x70000000, 0, 0, 0, 0));
         Checks.illegalArgument("tale of p and zeros", x::tale);
         Checks.due("fault", 0, x.fault());
+    }
+
+    /** What was cut off, or used up, is not read on into. */
+    private static void cutOff() {
+        GlassHill x = new GlassHill();
+        cut(x, "place;places", 1);
+        Checks.due("tale", 1, x.tale());
+        cut(x, "road 0 1 long 12", 1);
+        Checks.due("tale", 2, x.tale());
+        Checks.due("long", 1, x.road(0, 2));
+        cut(x, "bar if hour < 3;bar", 4);
+        Checks.due("law", 1, x.law());
+        cut(x, "bar if 1 < 2", 1);
+        Checks.illegalArgument("law", x::law);
+        Checks.due("fault", 11, x.fault());
+        cut(x, "place;", 1);
+        Checks.due("tale", 3, x.tale());
+        Checks.tape(x, 5, 1, 7, 0);
+        x.end(2);
+        Checks.due("locks", 16, x.locks(false));
+        Checks.due("and none told", 81, x.locks(false));
+    }
+
+    private static void cut(GlassHill x, String text, int less) {
+        Checks.tape(x, text);
+        Checks.due("cut", true, x.end(text.length() - less));
     }
 
     private static void longestText() {

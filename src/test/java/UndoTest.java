@@ -5,6 +5,7 @@ public final class UndoTest {
         twelve();
         forgotten();
         image();
+        imageOfTimes();
         Checks.finish("UndoTest");
     }
 
@@ -136,6 +137,40 @@ public final class UndoTest {
         y.feed(0, 0, 0, 0, 0);
         y.undo();
         Checks.due("the tape is not undone", 40, y.feed(0, 0, 0, 0, 0));
+    }
+
+    /** Undone and done anew at another time with another thing: the image still tells the first ones. */
+    private static void imageOfTimes() {
+        GlassHill x = Checks.told("place;place;road 0 1 long 1;keeper 0 lock 0 0;keeper 1 lock 0 0;thing 0 worth 1 at 0;thing 0 worth 1 at 0;"
+            + "brother 0 lock 0 0 way 1 due 1");
+        x.take(0);
+        x.take(1);
+        x.delay(3);
+        x.pay(0);
+        x.free(0);
+        x.image();
+        x.undo();
+        x.undo();
+        x.delay(4);
+        x.free(0);
+        x.pay(1);
+        Checks.due("freed at", 7, x.brother(0, 5));
+        Checks.due("log", 1, x.log(0, 1));
+        x.go(0);
+        x.pay(0);
+        Checks.due("log", 8, x.log(1, 2));
+        x.back();
+        Checks.due("freed at", 3, x.brother(0, 5));
+        Checks.due("log", 0, x.log(0, 0));
+        Checks.due("log", 0, x.log(0, 1));
+        Checks.due("log", 3, x.log(0, 2));
+        Checks.due("log", -1, x.log(1, 2));
+        x.undo();
+        x.go(0);
+        x.pay(1);
+        Checks.due("log", 1, x.log(1, 0));
+        Checks.due("log", 1, x.log(1, 1));
+        Checks.due("log", 4, x.log(1, 2));
     }
 
     private static void image() {
