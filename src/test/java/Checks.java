@@ -125,6 +125,62 @@ final class Checks {
         due("lines of law \"" + text + "\"", lines, hill.count(6));
     }
 
+    /** The same LINE so many times, as one text. */
+    static String times(String line, int n) {
+        StringBuilder text = new StringBuilder();
+        for (int i = 0; i < n; i++) {
+            text.append(i == 0 ? "" : ";").append(line);
+        }
+        return text.toString();
+    }
+
+    /** BROTHERS who are FREED at TIME 0, each told as "way N due N". */
+    static GlassHill freed(String... brothers) {
+        StringBuilder text = new StringBuilder("place;thing 0 worth 1 at 0");
+        for (String b : brothers) {
+            text.append(";brother 0 lock 0 0 ").append(b);
+        }
+        GlassHill x = told(text.toString());
+        x.take(0);
+        for (int b = 0; b < brothers.length; b++) {
+            x.free(b);
+        }
+        return x;
+    }
+
+    private interface Asked {
+        int answer(int which, int what);
+    }
+
+    private static void row(StringBuilder s, int many, int whats, Asked asked) {
+        for (int i = 0; i < many; i++) {
+            for (int what = 0; what < whats; what++) {
+                s.append(asked.answer(i, what)).append(' ');
+            }
+        }
+        s.append("| ");
+    }
+
+    /** All that can be asked of what there is, as one text. */
+    static String all(GlassHill x) {
+        StringBuilder s = new StringBuilder();
+        row(s, 1, 13, (i, what) -> x.count(what));
+        row(s, x.count(0), 9, x::place);
+        row(s, x.count(1), 4, x::thing);
+        row(s, x.count(2), 4, x::road);
+        row(s, x.count(3), 7, x::brother);
+        row(s, x.count(0) == 0 ? 0 : 1, 5, (i, what) -> x.girl(what));
+        row(s, Integer.bitCount(x.count(8)) + 1, 3, x::log);
+        row(s, 1, 2, (i, what) -> x.gate(what - 1));
+        row(s, 1, x.count(0) == 0 ? 0 : 2, (i, what) -> x.locked(what == 1));
+        return s.toString();
+    }
+
+    static void same(String what, String want, GlassHill x) {
+        String got = all(x);
+        due(what + ": " + want + " / " + got, true, want.equals(got));
+    }
+
     static void finish(String test) {
         System.out.println(test + ": " + done + " checks, " + wrong + " wrong");
         if (wrong != 0) {

@@ -9,19 +9,6 @@ public final class RiddlesTest {
         Checks.finish("RiddlesTest");
     }
 
-    private static GlassHill freed(String... brothers) {
-        StringBuilder text = new StringBuilder("place;thing 0 worth 1 at 0");
-        for (String b : brothers) {
-            text.append(";brother 0 lock 0 0 ").append(b);
-        }
-        GlassHill x = Checks.told(text.toString());
-        x.take(0);
-        for (int b = 0; b < brothers.length; b++) {
-            x.free(b);
-        }
-        return x;
-    }
-
     private static void order(String name, GlassHill x, int late, int... order) {
         Checks.due(name + ": lateness", late, x.gate(-1));
         for (int k = 0; k < order.length; k++) {
@@ -34,24 +21,24 @@ public final class RiddlesTest {
     }
 
     private static void gate() {
-        order("none", freed(), 0);
-        order("one in time", freed("way 5 due 5"), 0, 0);
-        order("one late", freed("way 5 due 3"), 2, 0);
-        order("in any order", freed("way 0 due 9", "way 0 due 9", "way 0 due 9"), 0, 0, 1, 2);
-        order("the last must be first", freed("way 0 due 2", "way 0 due 2", "way 0 due 0"), 0, 2, 0, 1);
-        order("the first by numbers of those that are least late", freed("way 0 due 5", "way 0 due 0", "way 0 due 3",
+        order("none", Checks.freed(), 0);
+        order("one in time", Checks.freed("way 5 due 5"), 0, 0);
+        order("one late", Checks.freed("way 5 due 3"), 2, 0);
+        order("in any order", Checks.freed("way 0 due 9", "way 0 due 9", "way 0 due 9"), 0, 0, 1, 2);
+        order("the last must be first", Checks.freed("way 0 due 2", "way 0 due 2", "way 0 due 0"), 0, 2, 0, 1);
+        order("the first by numbers of those that are least late", Checks.freed("way 0 due 5", "way 0 due 0", "way 0 due 3",
             "way 0 due 0"), 1, 1, 3, 0, 2);
-        order("all at the same due", freed("way 0 due 0", "way 0 due 0", "way 0 due 0", "way 0 due 0",
+        order("all at the same due", Checks.freed("way 0 due 0", "way 0 due 0", "way 0 due 0", "way 0 due 0",
             "way 0 due 0", "way 0 due 0", "way 0 due 0"), 6, 0, 1, 2, 3, 4, 5, 6);
-        order("turned round", freed("way 0 due 6", "way 0 due 5", "way 0 due 4", "way 0 due 3",
+        order("turned round", Checks.freed("way 0 due 6", "way 0 due 5", "way 0 due 4", "way 0 due 3",
             "way 0 due 2", "way 0 due 1", "way 0 due 0"), 0, 6, 5, 4, 3, 2, 1, 0);
     }
 
     /** The gate waits for nobody but the next one in the order. */
     private static void gateWaits() {
-        order("the one who is home late is let wait for", freed("way 10 due 10", "way 0 due 11"), 0, 0, 1);
-        order("else he would be late", freed("way 10 due 10", "way 0 due 10"), 0, 1, 0);
-        order("ties at home", freed("way 3 due 3", "way 3 due 3"), 1, 0, 1);
+        order("the one who is home late is let wait for", Checks.freed("way 10 due 10", "way 0 due 11"), 0, 0, 1);
+        order("else he would be late", Checks.freed("way 10 due 10", "way 0 due 10"), 0, 1, 0);
+        order("ties at home", Checks.freed("way 3 due 3", "way 3 due 3"), 1, 0, 1);
         GlassHill x = Checks.told("place;place;road 0 1 long 4;thing 0 worth 1 at 0;brother 1 lock 0 0 way 1 due 2;"
             + "brother 0 lock 0 0 way 9 due 9;brother 0 lock 1 1 way 0 due 0");
         x.take(0);

@@ -98,36 +98,28 @@ public final class TaleTest {
         GlassHill x = new GlassHill();
         Checks.rightTale(x, "place;place;place;place;place;place;place;place;place;place");
         Checks.wrongTale(x, "  place", 2);
-        Checks.rightTale(x, repeat("thing 1 worth 1 at 9", 9));
+        Checks.rightTale(x, Checks.times("thing 1 worth 1 at 9", 9));
         Checks.wrongTale(x, "thing 1 worth 1 at 9;thing 1 worth", 21);
         Checks.wrongTale(x, "keeper 0 lock 1 1 has 1 worth 1;keeper 1 lock 1 1 takes has 1 worth 1", 56);
         Checks.rightTale(x, "keeper 0 lock 1 1 has 1 worth 1");
         Checks.wrongTale(x, "keeper 1 lock 1 1 has 99", 18);
         Checks.wrongTale(x, "thing", 0);
-        Checks.rightTale(x, repeat("road 0 1 long 1", 14));
-        Checks.rightTale(x, repeat("road 0 1 long 1", 2));
+        Checks.rightTale(x, Checks.times("road 0 1 long 1", 14));
+        Checks.rightTale(x, Checks.times("road 0 1 long 1", 2));
         Checks.wrongTale(x, "road 0 1 long 1", 0);
-        Checks.rightTale(x, repeat("brother 0 lock 0 0 way 0 due 0", 7));
+        Checks.rightTale(x, Checks.times("brother 0 lock 0 0 way 0 due 0", 7));
         Checks.wrongTale(x, "brother 0 lock 0 0 way 0 due 0", 0);
-        Checks.wrongTale(x, repeat("keeper 0", 1), 7);
+        Checks.wrongTale(x, Checks.times("keeper 0", 1), 7);
         Checks.due("ten of each", 10, x.count(0));
         Checks.due("things", 10, x.count(1));
         Checks.due("roads", 16, x.count(2));
         Checks.due("brothers", 7, x.count(3));
         GlassHill y = Checks.told("place;place");
-        Checks.rightTale(y, repeat("road 0 1 long 1", 14));
-        Checks.wrongTale(y, repeat("place", 8) + ";" + repeat("thing 0 worth 1 at 0", 7), 48 + 6 * 21);
-        Checks.wrongTale(y, repeat("place", 8) + ";" + repeat("thing 0 worth 1 at 0", 6) + ";", 48 + 6 * 21);
-        Checks.wrongTale(y, repeat("place", 8) + ";" + repeat("thing 0 worth 1 at 0", 6) + "; ;", 49 + 6 * 21);
-        Checks.rightTale(y, repeat("place", 8) + ";" + repeat("thing 0 worth 1 at 0", 6));
-    }
-
-    private static String repeat(String line, int times) {
-        StringBuilder text = new StringBuilder(line);
-        for (int i = 1; i < times; i++) {
-            text.append(';').append(line);
-        }
-        return text.toString();
+        Checks.rightTale(y, Checks.times("road 0 1 long 1", 14));
+        Checks.wrongTale(y, Checks.times("place", 8) + ";" + Checks.times("thing 0 worth 1 at 0", 7), 48 + 6 * 21);
+        Checks.wrongTale(y, Checks.times("place", 8) + ";" + Checks.times("thing 0 worth 1 at 0", 6) + ";", 48 + 6 * 21);
+        Checks.wrongTale(y, Checks.times("place", 8) + ";" + Checks.times("thing 0 worth 1 at 0", 6) + "; ;", 49 + 6 * 21);
+        Checks.rightTale(y, Checks.times("place", 8) + ";" + Checks.times("thing 0 worth 1 at 0", 6));
     }
 
     private static void nothingStays() {

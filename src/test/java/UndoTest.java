@@ -14,59 +14,24 @@ public final class UndoTest {
             + "brother 1 lock 2 2 way 4 due 5");
     }
 
-    /** All that can be asked of what there is, as one text. */
-    private static String all(GlassHill x) {
-        StringBuilder s = new StringBuilder();
-        for (int what = 0; what < 13; what++) {
-            s.append(x.count(what)).append(' ');
-        }
-        for (int p = 0; p < x.count(0); p++) {
-            for (int what = 0; what < 9; what++) {
-                s.append(x.place(p, what)).append(' ');
-            }
-        }
-        for (int t = 0; t < x.count(1); t++) {
-            for (int what = 0; what < 4; what++) {
-                s.append(x.thing(t, what)).append(' ');
-            }
-        }
-        for (int b = 0; b < x.count(3); b++) {
-            for (int what = 0; what < 7; what++) {
-                s.append(x.brother(b, what)).append(' ');
-            }
-        }
-        for (int what = 0; what < 5; what++) {
-            s.append(x.girl(what)).append(' ');
-        }
-        for (int k = 0; k < 3; k++) {
-            s.append(x.log(k, 0)).append(' ').append(x.log(k, 1)).append(' ').append(x.log(k, 2)).append(' ');
-        }
-        return s + "" + x.locked(true) + " " + x.gate(-1) + " " + x.gate(0);
-    }
-
-    private static void same(String what, String want, GlassHill x) {
-        String got = all(x);
-        Checks.due(what + ": " + want + " / " + got, true, want.equals(got));
-    }
-
     private static void eachAct() {
         GlassHill x = some();
         Checks.due("nothing to undo", false, x.undo());
         String[] ahead = new String[8];
         int n = 0;
-        ahead[n++] = all(x);
+        ahead[n++] = Checks.all(x);
         x.take(0);
-        ahead[n++] = all(x);
+        ahead[n++] = Checks.all(x);
         x.take(1);
-        ahead[n++] = all(x);
+        ahead[n++] = Checks.all(x);
         x.pay(0);
-        ahead[n++] = all(x);
+        ahead[n++] = Checks.all(x);
         x.delay(5);
-        ahead[n++] = all(x);
+        ahead[n++] = Checks.all(x);
         x.go(0);
-        ahead[n++] = all(x);
+        ahead[n++] = Checks.all(x);
         x.free(0);
-        ahead[n++] = all(x);
+        ahead[n++] = Checks.all(x);
         x.lay(1);
         Checks.due("acts", 7, x.count(12));
         Checks.illegalState("a refused one is none", () -> x.free(0));
@@ -74,10 +39,10 @@ public final class UndoTest {
         while (n > 0) {
             Checks.due("undo", true, x.undo());
             n--;
-            same("undone to " + n, ahead[n], x);
+            Checks.same("undone to " + n, ahead[n], x);
         }
         Checks.due("none left", false, x.undo());
-        same("nothing happens", ahead[0], x);
+        Checks.same("nothing happens", ahead[0], x);
     }
 
     private static void twelve() {
@@ -197,7 +162,7 @@ public final class UndoTest {
         Checks.due("undone", 0, x.girl(1));
         x.back();
         Checks.due("the latest image", 1, x.girl(1));
-        String kept = all(x);
+        String kept = Checks.all(x);
         x.go(0);
         x.pay(0);
         x.free(0);
@@ -207,14 +172,14 @@ public final class UndoTest {
         Checks.illegalArgument("wrong", x::tale);
         x.feed(0, 0, 0, 0, 0);
         Checks.due("back", true, x.back());
-        same("gone back", kept, x);
+        Checks.same("gone back", kept, x);
         Checks.due("the law is back", 5, x.rule(0, 1));
         Checks.due("fault stays", 0, x.fault());
         Checks.due("the tape stays", 40, x.feed(0, 0, 0, 0, 0));
         x.go(0);
         x.pay(0);
         Checks.due("back once more", true, x.back());
-        same("gone back again", kept, x);
+        Checks.same("gone back again", kept, x);
         Checks.tale(x, "thing 7 worth 7 at 1");
         Checks.due("things told anew", 3, x.count(1));
         Checks.due("lies", 4, x.place(1, 8));
