@@ -28,6 +28,7 @@ public final class EdgesOfSearchTest {
         highestNumbers();
         numbersDoNotMix();
         lostForGood();
+        nothingIsLeftOfOnesAhead();
         wrongAsked();
         Checks.finish("EdgesOfSearchTest");
     }
@@ -497,6 +498,30 @@ public final class EdgesOfSearchTest {
         Checks.due("to 3", 4, x.reached(3));
         Checks.due("but not with it", -1, x.soonest(2));
         Checks.due("all let her pass", 0, x.locked(false));
+    }
+
+    // "from now on": a search of few STATES behind one of many, whatever is at the end of the few
+    private static void nothingIsLeftOfOnesAhead() {
+        GlassHill x = Checks.told("place;place;road 0 1 long 1;keeper 1 lock 0 1 eats 22 to 22;thing 0 worth 5 at 0;brother 0 lock 0 0 way 0 due 0");
+        x.take(0);
+        x.go(0);
+        Checks.tale(x, "keeper 0 lock 0 0 takes");
+        Checks.law(x, "bar if from > 0 and hour > 2");
+        x.go(0);
+        x.image();
+        for (int waits = 0; waits < 19; waits++) {
+            x.back();
+            Checks.due("here", 0, x.soonest(1));
+            x.go(0);
+            if (waits > 0) {
+                x.delay(waits);
+            }
+            Checks.due("till 21", 19 - waits, x.locked(true));
+            Checks.due("nobody is freed at 1", -1, x.soonest(1));
+            Checks.due("nor spared", -1, x.spared(1));
+            Checks.due("nobody is passed", 3, x.locked(false));
+            Checks.due("she is where she is", -1, x.reached(0));
+        }
     }
 
     // "IllegalStateException: there is no PLACE"; reached: "IndexOutOfBoundsException"
