@@ -1392,8 +1392,11 @@ public final class GlassHill {
             statute.tellCarried(Integer.bitCount(carried), land.worthOf(carried));
             for (int line = 0; line < statute.lines && line < Law.MOST_LINES; line++) {
                 if (statute.holds(line)) {
-                    barred |= statute.slow[line] == NONE;
-                    hours += Math.max(statute.slow[line], 0);
+                    if (statute.slow[line] == NONE) {
+                        barred = true;
+                    } else {
+                        hours += statute.slow[line];
+                    }
                 }
             }
         }
